@@ -1,0 +1,46 @@
+import java.util.Objects;
+
+/** Counts what is not as due, prints it, and ends a test with exit code 1 if there was any. */
+final class Checks {
+    private static int made = 0;
+    private static int wrong = 0;
+
+    private Checks() {
+    }
+
+    interface Call {
+        void run();
+    }
+
+    static void same(String what, Object got, Object due) {
+        made++;
+        if (!Objects.equals(got, due)) {
+            wrong++;
+            System.out.println(what + ": answered " + got + ", due is " + due);
+        }
+    }
+
+    static void raises(String what, Class<? extends Exception> due, Call call) {
+        Class<?> got = null;
+        try {
+            call.run();
+        } catch (RuntimeException e) {
+            got = e.getClass();
+        }
+        same(what + " throws", got, due);
+    }
+
+    /** The exception must come, and nothing that can be seen of the object may have changed. */
+    static void raisesAndKeeps(String what, KeyToken token, Class<? extends Exception> due, Call call) {
+        String before = Wire.state(token);
+        raises(what, due, call);
+        same(what + " changes nothing", Wire.state(token), before);
+    }
+
+    static void end(String test) {
+        System.out.println(test + ": " + made + " checks, " + wrong + " wrong");
+        if (wrong > 0 || made == 0) {
+            System.exit(1);
+        }
+    }
+}
