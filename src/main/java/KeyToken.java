@@ -559,6 +559,8 @@ public final class KeyToken {
         private static final int SEAL = 5;
         private static final int SEAL_START = 7;
         private static final int SEAL_FACTOR = 16777619;
+        private static final int LOWEST_31_BITS = 0x7fffffff;
+        private static final int ABOVE_ALL_LABELS = 0x7fffffff;
         private static final int ERASED = -1;
         private static final int NAMES = 16;
         private static final int NO_CUT = -1;
@@ -617,7 +619,7 @@ public final class KeyToken {
         boolean put(int name, int first, int second, int third, int fourth) {
             int old = pageOf(name);
             int page = firstErased();
-            int serial = Math.max(0, labelBelow(Integer.MAX_VALUE)) / NAMES + 1;
+            int serial = Math.max(0, labelBelow(ABOVE_ALL_LABELS)) / NAMES + 1;
             return write(page, 0, name + NAMES * serial)
                     && write(page, 1, first)
                     && write(page, 2, second)
@@ -665,7 +667,7 @@ public final class KeyToken {
             for (int k = 0; k < SEAL; k++) {
                 x = (x ^ read(page, k)) * SEAL_FACTOR + 1;
             }
-            return x & Integer.MAX_VALUE;
+            return x & LOWEST_31_BITS;
         }
 
         private int firstErased() {
@@ -678,7 +680,7 @@ public final class KeyToken {
         }
 
         private boolean write(int page, int k, int value) {
-            if (page < 0 || page >= PAGES || k < 0 || k >= CELLS || !mayWrite()) {
+            if (page < 0 || page >= PAGES || k < 0 || k >= CELLS || !spendWrite()) {
                 return false;
             }
             cells[page * CELLS + k] = value;
@@ -686,7 +688,7 @@ public final class KeyToken {
         }
 
         private boolean erase(int page) {
-            if (page < 0 || page >= PAGES || !mayWrite()) {
+            if (page < 0 || page >= PAGES || !spendWrite()) {
                 return false;
             }
             for (int k = 0; k < CELLS; k++) {
@@ -695,7 +697,8 @@ public final class KeyToken {
             return true;
         }
 
-        private boolean mayWrite() {
+        /** Counts one more write; false if the cut comes before it. */
+        private boolean spendWrite() {
             if (writesUntilCut == 0) {
                 return false;
             }
@@ -970,7 +973,7 @@ public final class KeyToken {
         private int findCredentials(int party) {
             boolean listed = request.has(ASSERT_ALLOWED);
             int count = 0;
-            int label = store.labelBelow(Integer.MAX_VALUE);
+            int label = store.labelBelow(Store.ABOVE_ALL_LABELS);
             for (int i = 0; i < Store.PAGES && label != Store.ERASED && count < MOST_NAME; i++) {
                 int name = label % Store.NAMES;
                 if (isCredential(name, party) && (!listed || request.lists(ASSERT_ALLOWED, name))) {

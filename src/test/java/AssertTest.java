@@ -5,6 +5,7 @@ public final class AssertTest {
         takesTheLatestFirst();
         keepsToTheList();
         goesThroughTheOthers();
+        goesThroughSix();
         forgetsNext();
         wantsARightTicket();
         looksInOrder();
@@ -62,6 +63,23 @@ public final class AssertTest {
         Checks.same("the latest of them", Wire.answer(token), "00 a6 01 02 02 02 03 05 04 01 05 02 06 0c");
         Checks.same("the other", Wire.ask(token, Wire.NEXT), 0);
         Checks.same("its answer", Wire.answer(token), "00 a5 01 01 02 01 03 06 04 01 06 0b");
+        Checks.same("no more", Wire.ask(token, Wire.NEXT), 5);
+    }
+
+    private static void goesThroughSix() {
+        KeyToken token = new KeyToken();
+        for (int user = 1; user <= 6; user++) {
+            Wire.askPressed(token, Wire.make(1, "a", user));
+        }
+        Checks.same("the sixth name in a list", Wire.askPressed(token, Wire.signAllowed("a", 1, 6)), 0);
+        Checks.same("it alone", Wire.answer(token), "00 a6 01 06 02 06 03 07 04 01 05 01 06 06");
+        Wire.askPressed(token, Wire.sign("a", 1));
+        Checks.same("all six", Wire.answer(token), "00 a6 01 06 02 06 03 08 04 02 05 06 06 06");
+        for (int name = 5; name >= 1; name--) {
+            Checks.same("NEXT has " + name, token.look(4), name);
+            Checks.same("NEXT", Wire.ask(token, Wire.NEXT), 0);
+            Checks.same("its key", token.signature(token.look(8), 2), name);
+        }
         Checks.same("no more", Wire.ask(token, Wire.NEXT), 5);
     }
 

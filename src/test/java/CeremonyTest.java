@@ -86,6 +86,11 @@ public final class CeremonyTest {
         Checks.same("not pressed", token.ceremony(0, 0, true, 0), 107);
         Checks.same("input", token.look(6), 0);
         Checks.same("output", token.waiting(), 0);
+        Wire.ask(token, Wire.INFO);
+        token.feed(4, 1);
+        Checks.same("assert", pressed(token, 0, 0, false, 0), 0);
+        Checks.same("input", token.look(6), 0);
+        Checks.same("output", token.waiting(), 0);
     }
 
     private static void tellsStatusAndPower() {

@@ -58,6 +58,9 @@ public final class EncodingTest {
         Checks.same("no map", Wire.ask(token, "04"), 0);
         Checks.same("an empty map", Wire.ask(token, "04 a0"), 0);
         Checks.same("48 bytes", Wire.ask(token, "04 a1 01 98 2b" + "00".repeat(43)), 0);
+        Checks.same("48 bytes, one too few", Wire.ask(token, "04 a1 01 98 2c" + "00".repeat(43)), 2);
+        Checks.same("48 bytes, a text too long", Wire.ask(token, "04 a1 01 78 2c" + "41".repeat(43)), 2);
+        Checks.same("48 bytes, a number cut off", Wire.ask(token, "04 a1 01 98 2a" + "00".repeat(42) + "18"), 2);
         Checks.same("great keys", Wire.ask(token, "04 a2 1a 7f ff ff fe 00 1a 7f ff ff ff 00"), 0);
     }
 

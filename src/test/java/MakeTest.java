@@ -116,6 +116,7 @@ public final class MakeTest {
             Checks.same("credential " + user, Wire.askPressed(token, Wire.make(7, "a", user)), 0);
         }
         String store = Wire.store(token);
+        Checks.same("the sixth name can be excluded", Wire.askPressed(token, Wire.makeExcluding(7, "a", 7, 6)), 8);
         Checks.same("a seventh", Wire.askPressed(token, Wire.make(7, "a", 7)), 6);
         Checks.same("no key is made", token.look(7), 6);
         Checks.same("no PIN fits either", Wire.ask(token, Wire.setPin("1234")), 6);
