@@ -12,8 +12,8 @@ public final class AssertTest {
         Checks.end("AssertTest");
     }
 
-    private static KeyToken three() {
-        KeyToken token = new KeyToken();
+    private static Bench three() {
+        Bench token = new Bench();
         Wire.askPressed(token, Wire.make(1, "a", 11));
         Wire.askPressed(token, Wire.make(1, "a", 12));
         Wire.askPressed(token, Wire.make(1, "b", 13));
@@ -22,7 +22,7 @@ public final class AssertTest {
     }
 
     private static void checksParameters() {
-        KeyToken token = three();
+        Bench token = three();
         String[] wrongTypes = {"02 a2 01 05 02 05", "02 a2 01 41 61 02 05", "02 a2 01 61 61 02 61 61", "02 a2 01 61 61 02 f4",
             "02 a3 01 61 61 02 05 03 01", "02 a3 01 61 61 02 05 03 81 60", "02 a3 01 61 61 02 05 06 80", "02 a1 06 60"};
         for (String hex : wrongTypes) {
@@ -38,7 +38,7 @@ public final class AssertTest {
     }
 
     private static void takesTheLatestFirst() {
-        KeyToken token = three();
+        Bench token = three();
         Checks.same("no credential", Wire.askPressed(token, Wire.sign("c", 1)), 9);
         Checks.same("pressed still", token.look(1), 1);
         Checks.same("assert", Wire.ask(token, Wire.sign("a", 1)), 0);
@@ -55,7 +55,7 @@ public final class AssertTest {
     }
 
     private static void keepsToTheList() {
-        KeyToken token = three();
+        Bench token = three();
         Checks.same("empty", Wire.askPressed(token, Wire.signAllowed("a", 1)), 9);
         Checks.same("another party's", Wire.ask(token, Wire.signAllowed("a", 1, 3)), 9);
         Checks.same("none", Wire.ask(token, Wire.signAllowed("a", 1, 0, 5, 6, 7, 33, 34, 70000)), 9);
@@ -67,7 +67,7 @@ public final class AssertTest {
     }
 
     private static void goesThroughSix() {
-        KeyToken token = new KeyToken();
+        Bench token = new Bench();
         for (int user = 1; user <= 6; user++) {
             Wire.askPressed(token, Wire.make(1, "a", user));
         }
@@ -84,7 +84,7 @@ public final class AssertTest {
     }
 
     private static void goesThroughTheOthers() {
-        KeyToken token = three();
+        Bench token = three();
         Checks.same("none at first", Wire.ask(token, Wire.NEXT), 5);
         Wire.askPressed(token, Wire.sign("a", 70000));
         Checks.same("two", token.look(4), 2);
@@ -109,7 +109,7 @@ public final class AssertTest {
     private static void forgetsNext() {
         String[] leave = {"", "03", "ff a0", "08 ff", "01 ff", "02 a1", "04 a0 00"};
         for (String hex : leave) {
-            KeyToken token = three();
+            Bench token = three();
             Wire.askPressed(token, Wire.sign("a", 1));
             Wire.ask(token, hex);
             Checks.same("left by " + hex, token.look(4), 2);
@@ -117,7 +117,7 @@ public final class AssertTest {
         String[] forget = {Wire.INFO, "01", "02", "06", Wire.RESET, Wire.TRIES, Wire.sign("c", 1), Wire.sign("a", 1),
             Wire.make(1, "a", 1), Wire.ticket("1234"), Wire.setPin("1234"), "06 a1 01 02", Wire.sign("", 1)};
         for (String hex : forget) {
-            KeyToken token = three();
+            Bench token = three();
             Wire.askPressed(token, Wire.sign("a", 1));
             Wire.ask(token, hex);
             Checks.same("forgotten by " + hex, token.look(4), 0);
@@ -126,7 +126,7 @@ public final class AssertTest {
     }
 
     private static void wantsARightTicket() {
-        KeyToken token = three();
+        Bench token = three();
         Checks.same("there is none", Wire.askPressed(token, Wire.signWith("a", 1, 0)), 14);
         Checks.same("nor 1", Wire.ask(token, Wire.signWith("a", 1, 1)), 14);
         Wire.ask(token, Wire.setPin("1234"));
@@ -141,7 +141,7 @@ public final class AssertTest {
     }
 
     private static void looksInOrder() {
-        KeyToken token = three();
+        Bench token = three();
         Checks.same("5 before 14", Wire.ask(token, Wire.signWith("", 1, 1)), 5);
         Checks.same("14 before 9", Wire.ask(token, Wire.signWith("c", 1, 1)), 14);
         Checks.same("9 before 7", Wire.ask(token, Wire.sign("c", 1)), 9);

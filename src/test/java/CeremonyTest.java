@@ -11,13 +11,13 @@ public final class CeremonyTest {
         Checks.end("CeremonyTest");
     }
 
-    private static int pressed(KeyToken token, int party, int origin, boolean registers, int ticket) {
+    private static int pressed(Bench token, int party, int origin, boolean registers, int ticket) {
         token.press();
         return token.ceremony(party, origin, registers, ticket);
     }
 
     private static void registersAndAsserts() {
-        KeyToken token = new KeyToken();
+        Bench token = new Bench();
         for (int party = 0; party < 4; party++) {
             token.open(party, 10 + party);
             Checks.same("register " + party, pressed(token, party, party, true, 0), 0);
@@ -38,7 +38,7 @@ public final class CeremonyTest {
     }
 
     private static void bindsTheOrigin() {
-        KeyToken token = new KeyToken();
+        Bench token = new Bench();
         token.open(0, 1);
         Checks.same("at another origin", pressed(token, 0, 1, true, 0), 2);
         Checks.same("the token was asked under its text", token.signature(1, 3), 753);
@@ -50,7 +50,7 @@ public final class CeremonyTest {
     }
 
     private static void carriesTickets() {
-        KeyToken token = new KeyToken();
+        Bench token = new Bench();
         token.open(0, 1);
         Checks.same("MAKE passes a ticket over", pressed(token, 0, 0, true, 5), 0);
         token.open(0, 1);
@@ -73,7 +73,7 @@ public final class CeremonyTest {
     }
 
     private static void emptiesInputAndOutput() {
-        KeyToken token = new KeyToken();
+        Bench token = new Bench();
         Wire.ask(token, Wire.INFO);
         token.feed(4, 1);
         token.open(0, 1);
@@ -94,7 +94,7 @@ public final class CeremonyTest {
     }
 
     private static void tellsStatusAndPower() {
-        KeyToken token = new KeyToken();
+        Bench token = new Bench();
         token.open(0, 1);
         Checks.same("no credentials", pressed(token, 0, 0, false, 0), 109);
         token.cut(4);
@@ -109,7 +109,7 @@ public final class CeremonyTest {
     }
 
     private static void leavesNextToGoThrough() {
-        KeyToken token = new KeyToken();
+        Bench token = new Bench();
         for (int user = 1; user < 4; user++) {
             token.open(0, user);
             pressed(token, 0, 0, true, 0);
@@ -126,23 +126,33 @@ public final class CeremonyTest {
         Checks.same("it is a request, too", token.look(4), 0);
     }
 
-    private static void refusesWrongCalls() {
-        KeyToken token = new KeyToken();
+    private static Bench opened() {
+        Bench token = new Bench();
         token.open(0, 1);
         token.press();
         token.feed(4, 1);
+        return token;
+    }
+
+    private static Bench openedWithoutPower() {
+        Bench token = opened();
+        token.power(false);
+        return token;
+    }
+
+    private static void refusesWrongCalls() {
         int[][] wrong = {{-1, 0}, {4, 0}, {0, -1}, {0, 4}, {Integer.MAX_VALUE, Integer.MIN_VALUE}};
         for (int[] w : wrong) {
-            Checks.raisesAndKeeps("party " + w[0] + ", origin " + w[1], token, IndexOutOfBoundsException.class,
-                    () -> token.ceremony(w[0], w[1], true, 0));
+            Twins.keeps("party " + w[0] + ", origin " + w[1], CeremonyTest::opened, IndexOutOfBoundsException.class,
+                    t -> t.ceremony(w[0], w[1], true, 0));
         }
-        Checks.raisesAndKeeps("no open challenge", token, IllegalStateException.class,
-                () -> token.ceremony(1, 0, true, 0));
-        Checks.raisesAndKeeps("first the index", token, IndexOutOfBoundsException.class,
-                () -> token.ceremony(1, 4, true, 0));
-        token.power(false);
-        Checks.raisesAndKeeps("no power", token, IllegalStateException.class, () -> token.ceremony(0, 0, true, 0));
-        Checks.raisesAndKeeps("the index is still first", token, IndexOutOfBoundsException.class,
-                () -> token.ceremony(4, 0, true, 0));
+        Twins.keeps("no open challenge", CeremonyTest::opened, IllegalStateException.class,
+                t -> t.ceremony(1, 0, true, 0));
+        Twins.keeps("first the index", CeremonyTest::opened, IndexOutOfBoundsException.class,
+                t -> t.ceremony(1, 4, true, 0));
+        Twins.keeps("no power", CeremonyTest::openedWithoutPower, IllegalStateException.class,
+                t -> t.ceremony(0, 0, true, 0));
+        Twins.keeps("the index is still first", CeremonyTest::openedWithoutPower, IndexOutOfBoundsException.class,
+                t -> t.ceremony(4, 0, true, 0));
     }
 }

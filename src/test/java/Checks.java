@@ -30,13 +30,6 @@ final class Checks {
         same(what + " throws", got, due);
     }
 
-    /** The exception must come, and nothing that can be seen of the object may have changed. */
-    static void raisesAndKeeps(String what, KeyToken token, Class<? extends Exception> due, Call call) {
-        String before = Wire.state(token);
-        raises(what, due, call);
-        same(what + " changes nothing", Wire.state(token), before);
-    }
-
     static void end(String test) {
         System.out.println(test + ": " + made + " checks, " + wrong + " wrong");
         if (wrong > 0 || made == 0) {

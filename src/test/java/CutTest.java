@@ -12,7 +12,7 @@ public final class CutTest {
     }
 
     private static void isRefused() {
-        KeyToken token = new KeyToken();
+        Bench token = new Bench();
         Checks.same("below 0", token.cut(-1), false);
         Checks.same("far below 0", token.cut(Integer.MIN_VALUE), false);
         Checks.same("no cut was set", Wire.ask(token, Wire.setPin("1234")), 0);
@@ -29,7 +29,7 @@ public final class CutTest {
     private static void tearsAtEachWrite() {
         int[] whole = {17, 752, 5, 1, 0};
         for (int k = 0; k <= 6; k++) {
-            KeyToken token = new KeyToken();
+            Bench token = new Bench();
             token.press();
             token.cut(k);
             Checks.same("cut after " + k, Wire.ask(token, Wire.make(7, "a", 5)), k < 6 ? -1 : 0);
@@ -46,7 +46,7 @@ public final class CutTest {
     }
 
     private static void countsTheWritesOfOneRequest() {
-        KeyToken token = new KeyToken();
+        Bench token = new Bench();
         Wire.ask(token, Wire.setPin("1234"));
         token.cut(14);
         Checks.same("two puts are 14 writes", Wire.ask(token, Wire.ticket("1234")), 0);
@@ -60,7 +60,7 @@ public final class CutTest {
     }
 
     private static void isOverWithTheRequest() {
-        KeyToken token = new KeyToken();
+        Bench token = new Bench();
         token.cut(0);
         Checks.same("no write", Wire.ask(token, Wire.INFO), 0);
         Checks.same("over", Wire.ask(token, Wire.setPin("1234")), 0);
@@ -81,7 +81,7 @@ public final class CutTest {
     }
 
     private static void isReplaced() {
-        KeyToken token = new KeyToken();
+        Bench token = new Bench();
         token.cut(0);
         token.cut(6);
         Checks.same("the later one counts", Wire.ask(token, Wire.setPin("1234")), 0);
@@ -93,7 +93,7 @@ public final class CutTest {
     }
 
     private static void keepsTheTryThatWasPaid() {
-        KeyToken token = new KeyToken();
+        Bench token = new Bench();
         Wire.ask(token, Wire.setPin("1234"));
         for (int k = 6; k < 14; k++) {
             token.cut(k);
@@ -113,7 +113,7 @@ public final class CutTest {
     }
 
     private static void stopsReset() {
-        KeyToken token = new KeyToken();
+        Bench token = new Bench();
         for (int user = 0; user < 3; user++) {
             Wire.askPressed(token, Wire.make(1, "a", user));
         }

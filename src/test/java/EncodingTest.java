@@ -12,7 +12,7 @@ public final class EncodingTest {
     }
 
     private static void item(String hex, boolean wellFormed) {
-        Checks.same("item " + hex, Wire.ask(new KeyToken(), "04 a1 01" + hex), wellFormed ? 0 : 2);
+        Checks.same("item " + hex, Wire.ask(new Bench(), "04 a1 01" + hex), wellFormed ? 0 : 2);
     }
 
     private static void numbers() {
@@ -49,7 +49,7 @@ public final class EncodingTest {
     }
 
     private static void wholeRequests() {
-        KeyToken token = new KeyToken();
+        Bench token = new Bench();
         String[] bad = {"04 a0 00", "04 a0 a0", "04 00", "04 80", "04 60", "04 40", "04 f5", "04 f6", "04 20", "04 ff",
             "04 a1 01", "04 a1 01 00 00", "04 a2 01 00", "04 a2 02 00 01 00", "04 a2 01 00 01 00", "04 81 a0"};
         for (String hex : bad) {
@@ -89,9 +89,9 @@ public final class EncodingTest {
 
     private static void everyCutOffRequest() {
         String whole = "04 a3 01 82 18 64 61 41 02 a1 19 01 00 43 00 01 02 1a 00 01 00 00 f5";
-        Checks.same("whole", Wire.ask(new KeyToken(), whole), 0);
+        Checks.same("whole", Wire.ask(new Bench(), whole), 0);
         for (int end = 5; end < whole.length(); end += 3) {
-            Checks.same("cut off at " + end, Wire.ask(new KeyToken(), whole.substring(0, end)), 2);
+            Checks.same("cut off at " + end, Wire.ask(new Bench(), whole.substring(0, end)), 2);
         }
     }
 }

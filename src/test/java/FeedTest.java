@@ -9,7 +9,7 @@ public final class FeedTest {
     }
 
     private static void putsTheLowestBytes() {
-        KeyToken token = new KeyToken();
+        Bench token = new Bench();
         token.feed(0x7766554433221104L, 1);
         Checks.same("one byte", token.look(6), 1);
         Checks.same("the lowest", token.send(), 0);
@@ -26,36 +26,51 @@ public final class FeedTest {
         Checks.same("a negative number's bytes", token.send(), 1);
     }
 
+    private static Bench fed(int bytes) {
+        Bench token = new Bench();
+        Wire.feed(token, "04".repeat(bytes));
+        return token;
+    }
+
+    private static Object feed(Bench token, long bytes, int n) {
+        token.feed(bytes, n);
+        return "fed";
+    }
+
     private static void refusesWrongCounts() {
-        KeyToken token = new KeyToken();
-        token.feed(4, 1);
         int[] wrong = {0, -1, 9, Integer.MIN_VALUE, Integer.MAX_VALUE};
         for (int n : wrong) {
-            Checks.raisesAndKeeps("feed " + n, token, IllegalArgumentException.class, () -> token.feed(5, n));
+            Twins.keeps("feed " + n, () -> fed(1), IllegalArgumentException.class, t -> feed(t, 5, n));
         }
-        Checks.same("the input is as it was", token.send(), 0);
     }
 
     private static void refusesWithoutRoom() {
-        KeyToken token = new KeyToken();
-        for (int i = 0; i < 5; i++) {
-            token.feed(0, 8);
+        for (int n = 1; n <= 8; n++) {
+            int count = n;
+            Bench exact = fed(48 - n);
+            Checks.same("room for just " + n, feed(exact, 0, n), "fed");
+            Checks.same("48 bytes", exact.look(6), 48);
+            Bench spare = fed(47 - n);
+            Checks.same("room for one more than " + n, feed(spare, 0, n), "fed");
+            Checks.same("47 bytes", spare.look(6), 47);
+            Twins.keeps("room for one less than " + n, () -> fed(49 - count), IllegalArgumentException.class,
+                    t -> feed(t, 5, count));
         }
-        token.feed(0, 7);
-        Checks.same("47 bytes", token.look(6), 47);
-        Checks.raisesAndKeeps("two more", token, IllegalArgumentException.class, () -> token.feed(0, 2));
-        token.feed(0, 1);
-        Checks.same("48 bytes", token.look(6), 48);
-        Checks.raisesAndKeeps("one more", token, IllegalArgumentException.class, () -> token.feed(0, 1));
+        Bench token = fed(48);
         token.send();
         token.feed(4, 1);
         Checks.same("room again", token.send(), 0);
     }
 
-    private static void refusesWithoutPower() {
-        KeyToken token = new KeyToken();
+    private static Bench withoutPower() {
+        Bench token = new Bench();
         token.power(false);
-        Checks.raisesAndKeeps("no power", token, IllegalStateException.class, () -> token.feed(4, 1));
-        Checks.raisesAndKeeps("no power comes first", token, IllegalStateException.class, () -> token.feed(4, 9));
+        return token;
+    }
+
+    private static void refusesWithoutPower() {
+        Twins.keeps("no power", FeedTest::withoutPower, IllegalStateException.class, t -> feed(t, 4, 1));
+        Twins.keeps("no power comes first", FeedTest::withoutPower, IllegalStateException.class, t -> feed(t, 4, 9));
+        Twins.keeps("and before 0 bytes", FeedTest::withoutPower, IllegalStateException.class, t -> feed(t, 4, 0));
     }
 }

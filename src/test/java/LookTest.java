@@ -1,7 +1,7 @@
 /** Promise 15. */
 public final class LookTest {
     public static void main(String[] args) {
-        KeyToken token = new KeyToken();
+        Bench token = new Bench();
         looks("new", token, 1, 0, 0, 0, 0, 0, 0, 0, 0);
         token.press();
         token.feed(0, 3);
@@ -31,7 +31,7 @@ public final class LookTest {
         Checks.end("LookTest");
     }
 
-    private static void looks(String when, KeyToken token, int... due) {
+    private static void looks(String when, Bench token, int... due) {
         for (int what = 0; what < due.length; what++) {
             Checks.same(when + ", look " + what, token.look(what), due[what]);
         }

@@ -13,7 +13,7 @@ public final class MakeTest {
     }
 
     private static void checksParameters() {
-        KeyToken token = new KeyToken();
+        Bench token = new Bench();
         token.press();
         String[] wrongTypes = {"01 a3 01 61 61 02 61 61 03 05", "01 a3 01 05 02 05 03 05", "01 a3 01 05 02 41 61 03 05",
             "01 a3 01 05 02 61 61 03 f5", "01 a4 01 05 02 61 61 03 05 05 01", "01 a4 01 05 02 61 61 03 05 05 a0",
@@ -36,7 +36,7 @@ public final class MakeTest {
     }
 
     private static void answers() {
-        KeyToken token = new KeyToken();
+        Bench token = new Bench();
         Wire.askPressed(token, Wire.make(7, "a", 5));
         Checks.same("name, key, signature", Wire.answer(token), "00 a3 01 01 02 01 03 01");
         Wire.askPressed(token, Wire.sign("a", 5));
@@ -45,7 +45,7 @@ public final class MakeTest {
     }
 
     private static void takesTheLeastName() {
-        KeyToken token = new KeyToken();
+        Bench token = new Bench();
         for (int user = 1; user <= 6; user++) {
             Wire.askPressed(token, Wire.make(7, "a", user));
             Checks.same("name " + user, token.cell(user - 1, 0) % 16, user);
@@ -59,7 +59,7 @@ public final class MakeTest {
     }
 
     private static void replaces() {
-        KeyToken token = new KeyToken();
+        Bench token = new Bench();
         Wire.askPressed(token, Wire.make(7, "a", 5));
         Wire.askPressed(token, Wire.make(7, "a", 6));
         Wire.askPressed(token, Wire.make(7, "b", 5));
@@ -73,7 +73,7 @@ public final class MakeTest {
     }
 
     private static void excludes() {
-        KeyToken token = new KeyToken();
+        Bench token = new Bench();
         Wire.askPressed(token, Wire.make(7, "a", 5));
         Wire.askPressed(token, Wire.make(7, "b", 5));
         token.press();
@@ -92,7 +92,7 @@ public final class MakeTest {
     }
 
     private static void wantsTheTicket() {
-        KeyToken token = new KeyToken();
+        Bench token = new Bench();
         Checks.same("no PIN: any", Wire.askPressed(token, Wire.makeWith(1, "a", 1, 99)), 0);
         Checks.same("not verified", token.signature(1, 6), 0);
         Wire.ask(token, Wire.setPin("1234"));
@@ -111,7 +111,7 @@ public final class MakeTest {
     }
 
     private static void isFull() {
-        KeyToken token = new KeyToken();
+        Bench token = new Bench();
         for (int user = 1; user <= 6; user++) {
             Checks.same("credential " + user, Wire.askPressed(token, Wire.make(7, "a", user)), 0);
         }
@@ -124,7 +124,7 @@ public final class MakeTest {
         Checks.same("the names stay", Wire.askPressed(token, Wire.make(7, "a", 3)), 0);
         Checks.same("signing goes on", Wire.askPressed(token, Wire.sign("a", 3)), 0);
 
-        KeyToken guarded = new KeyToken();
+        Bench guarded = new Bench();
         Wire.ask(guarded, Wire.setPin("1234"));
         Wire.ask(guarded, Wire.ticket("1234"));
         for (int user = 1; user <= 5; user++) {
@@ -137,7 +137,7 @@ public final class MakeTest {
     }
 
     private static void looksInOrder() {
-        KeyToken token = new KeyToken();
+        Bench token = new Bench();
         Wire.askPressed(token, Wire.make(7, "a", 1));
         Wire.ask(token, Wire.setPin("1234"));
         Checks.same("5 before 14", Wire.ask(token, Wire.make(7, "", 1)), 5);

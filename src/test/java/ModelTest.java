@@ -2,17 +2,21 @@ import java.util.Random;
 import java.util.TreeSet;
 import java.util.function.Function;
 
-/** Random runs of calls, each answered by the class as by the second reading of the document. */
+/**
+ * Random runs of calls, each answered by the class as by the second reading of the document. An object has
+ * 512 calls: most are the run's, with a look at something here and there, and the last ones look at all.
+ */
 public final class ModelTest {
-    private static final int RUNS = 1500;
-    private static final int CALLS = 300;
-    private static final String[] PARTIES = {"a", "b", "c", "d", "a", "a", "b", "abcdefgh", "", "abcdefghi"};
-    private static final String[] PINS = {"1234", "1234", "1234", "12345678", "0000", "123", "123456789", ""};
+    private static final int RUNS = 12000;
+    private static final int LEFT_FOR_THE_LAST_LOOK = 230;
+    private static final String[] PARTIES = {"a", "b", "c", "d", "a", "a", "b", "abcdefgh", "", "abcdefghi",
+        "kn99cnbj", "ams0hyqf", "w8ozrvt7"};
+    private static final String[] PINS = {"1234", "1234", "1234", "12345678", "0000", "123", "123456789", "", "kn99cnbj"};
 
     private static final TreeSet<String> REACHED = new TreeSet<>();
 
     private final Random random;
-    private final KeyToken real = new KeyToken();
+    private final Bench real = new Bench();
     private final Model model = new Model();
     private final StringBuilder log = new StringBuilder();
     private final boolean likesPins;
@@ -47,16 +51,16 @@ public final class ModelTest {
     }
 
     private String run() {
-        for (int i = 0; i < CALLS; i++) {
-            String fault = step();
-            if (fault != null) {
-                return fault + "\n" + log;
-            }
+        int left = LEFT_FOR_THE_LAST_LOOK + pick(pick(4) == 0 ? 250 : 60);
+        String fault = null;
+        while (fault == null && real.callsLeft() > left) {
+            fault = step();
         }
-        return null;
+        fault = fault == null ? lookAtAll() : fault;
+        return fault == null ? null : fault + "\n" + log;
     }
 
-    private String both(String what, Function<KeyToken, Object> onReal, Function<Model, Object> onModel) {
+    private String both(String what, Function<Bench, Object> onReal, Function<Model, Object> onModel) {
         Object got = outcome(() -> onReal.apply(real));
         Object due = outcome(() -> onModel.apply(model));
         log.append(what).append(" => ").append(due).append('\n');
@@ -64,7 +68,7 @@ public final class ModelTest {
         if (!got.equals(due)) {
             return what + " answered " + got + ", due is " + due;
         }
-        return compareState();
+        return pick(2) == 0 ? null : lookAtSomething();
     }
 
     private interface Supply {
@@ -79,27 +83,68 @@ public final class ModelTest {
         }
     }
 
-    private String compareState() {
-        for (int what = -1; what < 10; what++) {
-            if (real.look(what) != model.look(what)) {
-                return "look " + what + " is " + real.look(what) + ", due is " + model.look(what);
+    private String lookAtSomething() {
+        switch (pick(4)) {
+            case 0:
+                return looksAlike(pick(11) - 1);
+            case 1:
+                return cellsAlike(pick(9) - 1, pick(8) - 1);
+            case 2:
+                return partiesAlike(pick(6) - 1, pick(50) - 5);
+            default:
+                return same("waiting", real.waiting(), model.waiting());
+        }
+    }
+
+    private static String same(String what, int got, int due) {
+        return got == due ? null : what + " is " + got + ", due is " + due;
+    }
+
+    private String looksAlike(int what) {
+        return same("look " + what, real.look(what), model.look(what));
+    }
+
+    private String cellsAlike(int page, int k) {
+        return same("cell " + page + " " + k, real.cell(page, k), model.cell(page, k));
+    }
+
+    private String partiesAlike(int party, int what) {
+        return same("party " + party + " " + what, real.party(party, what), model.party(party, what));
+    }
+
+    private String lookAtAll() {
+        StringBuilder faults = new StringBuilder();
+        for (int what = 0; what < 9; what++) {
+            add(faults, looksAlike(what));
+        }
+        for (int page = 0; page < 7; page++) {
+            for (int k = 0; k < 6; k++) {
+                add(faults, cellsAlike(page, k));
             }
         }
-        for (int page = -1; page < 8; page++) {
-            for (int k = -1; k < 7; k++) {
-                if (real.cell(page, k) != model.cell(page, k)) {
-                    return "cell " + page + " " + k + " is " + real.cell(page, k) + ", due is " + model.cell(page, k);
-                }
+        for (int party = 0; party < 4; party++) {
+            add(faults, partiesAlike(party, 1));
+            for (int k = 0; k <= Math.min(6, model.party(party, 0)); k++) {
+                add(faults, partiesAlike(party, 10 + k));
+                add(faults, partiesAlike(party, 20 + k));
+                add(faults, partiesAlike(party, 30 + k));
             }
         }
-        for (int party = -1; party < 5; party++) {
-            for (int what = -11; what < 45; what++) {
-                if (real.party(party, what) != model.party(party, what)) {
-                    return "party " + party + " " + what;
-                }
-            }
+        for (int number = model.look(8); number > Math.max(0, model.look(8) - 40); number--) {
+            int what = 1 + pick(6);
+            add(faults, same("signature " + number, real.signature(number, what), model.signature(number, what)));
         }
-        return real.waiting() == model.waiting() ? null : "waiting is " + real.waiting();
+        while (model.waiting() > 0 && real.waiting() == model.waiting()) {
+            add(faults, real.take() == model.take() ? null : "the output");
+        }
+        add(faults, same("waiting", real.waiting(), model.waiting()));
+        return faults.length() == 0 ? null : faults.toString();
+    }
+
+    private static void add(StringBuilder faults, String fault) {
+        if (fault != null) {
+            faults.append(fault).append("; ");
+        }
     }
 
     private int pick(int below) {
@@ -107,10 +152,10 @@ public final class ModelTest {
     }
 
     private String step() {
-        if (likesPins && pick(3) == 0) {
-            return ask(pinRequest());
+        if (likesPins && pick(3) > 0) {
+            return model.look(0) == 0 || pick(6) == 0 ? switchPower(model.look(0) == 0) : ask(pinRequest());
         }
-        if (likesParties && pick(3) == 0) {
+        if (likesParties && pick(4) > 0) {
             return register();
         }
         switch (pick(24)) {
@@ -118,7 +163,7 @@ public final class ModelTest {
             case 1:
             case 2:
             case 3:
-                return both("press()", KeyToken::press, Model::press);
+                return both("press()", Bench::press, Model::press);
             case 4:
             case 5:
             case 6:
@@ -130,14 +175,13 @@ public final class ModelTest {
             case 11:
                 return feedRaw();
             case 12:
-                return both("take()", KeyToken::take, Model::take);
+                return both("take()", Bench::take, Model::take);
             case 13:
                 int k = pick(18) - 1;
                 return pick(3) > 0 ? null : both("cut(" + k + ")", t -> t.cut(k), m -> m.cut(k));
             case 14:
             case 15:
-                boolean on = pick(6) > 0;
-                return both("power(" + on + ")", t -> t.power(on), m -> m.power(on));
+                return switchPower(pick(6) > 0);
             case 16:
             case 17:
                 return open(pick(20) == 0 ? 4 : pick(4), pick(20) == 0 ? 100 - 101 * pick(2) : pick(3));
@@ -149,10 +193,14 @@ public final class ModelTest {
             case 22:
                 return offer();
             default:
-                int n = real.look(8) - pick(44);
+                int n = model.look(8) - pick(44);
                 int what = pick(8);
                 return both("signature(" + n + ", " + what + ")", t -> t.signature(n, what), m -> m.signature(n, what));
         }
+    }
+
+    private String switchPower(boolean on) {
+        return both("power(" + on + ")", t -> t.power(on), m -> m.power(on));
     }
 
     private String open(int p, int u) {
@@ -166,15 +214,15 @@ public final class ModelTest {
     private String register() {
         switch (pick(5)) {
             case 0:
-                return open(0, pick(3));
+                return open(0, pick(4) == 0 ? pick(100) : pick(3));
             case 1:
-                return both("press()", KeyToken::press, Model::press);
+                return both("press()", Bench::press, Model::press);
             case 2:
                 return ask(Wire.sign("a", 4 * (opened + pick(3))));
             case 3:
                 return ceremonyOf(0, 0, pick(2) == 0, someTicket());
             default:
-                int n = real.look(8) - pick(6);
+                int n = model.look(8) - pick(6);
                 return both("offer(0, " + n + ", 0, 0)", t -> t.offer(0, n, 0, 0), m -> m.offer(0, n, 0, 0));
         }
     }
@@ -192,7 +240,7 @@ public final class ModelTest {
 
     private String offer() {
         int p = pick(30) == 0 ? 4 : pick(2);
-        int n = real.look(8) - pick(pick(10) == 0 ? 44 : 4);
+        int n = model.look(8) - pick(pick(10) == 0 ? 44 : 4);
         int what = pick(3) == 0 ? pick(7) : 0;
         int delta = what == 4 && pick(2) == 0 && model.look(8) >= n && n > 0 && model.look(8) - n < 40
                 ? 4 * model.party(p, 1) + p - model.signature(n, 4) : pick(4) - 1;
@@ -203,23 +251,27 @@ public final class ModelTest {
     private String feedRaw() {
         long bytes = random.nextLong();
         int n = pick(11) - 1;
-        String fault = both("feed(" + bytes + ", " + n + ")", t -> {
+        String fault = feed(bytes, n);
+        return fault != null || pick(4) > 0 ? fault : both("send()", Bench::send, Model::send);
+    }
+
+    private String feed(long bytes, int n) {
+        return both("feed(" + bytes + ", " + n + ")", t -> {
             t.feed(bytes, n);
             return 0;
         }, m -> {
             m.feed(bytes, n);
             return 0;
         });
-        return fault != null || pick(4) > 0 ? fault : both("send()", KeyToken::send, Model::send);
     }
 
     private int someTicket() {
-        return pick(4) == 0 ? pick(4) - 1 : real.look(3);
+        return pick(4) == 0 ? pick(4) - 1 : model.look(3);
     }
 
     private String request() {
         String party = PARTIES[pick(PARTIES.length)];
-        int challenge = pick(3) == 0 ? pick(3) * 70000 + pick(300) : 4 * Math.max(0, real.party(pick(4), 1)) + pick(4);
+        int challenge = pick(3) == 0 ? pick(3) * 70000 + pick(300) : 4 * Math.max(0, model.party(pick(4), 1)) + pick(4);
         switch (pick(12)) {
             case 0:
                 return Wire.make(challenge, party, pick(3));
@@ -288,21 +340,21 @@ public final class ModelTest {
 
     private String ask(String hex) {
         log.append("request ").append(hex).append('\n');
-        for (byte b : Wire.bytes(hex)) {
-            String fault = both("feed(" + b + ", 1)", t -> {
-                t.feed(b, 1);
-                return 0;
-            }, m -> {
-                m.feed(b, 1);
-                return 0;
-            });
+        byte[] all = Wire.bytes(hex);
+        for (int at = 0; at < all.length; at += 8) {
+            int n = Math.min(8, all.length - at);
+            long chunk = 0;
+            for (int i = at; i < at + n; i++) {
+                chunk = chunk << 8 | all[i] & 255;
+            }
+            String fault = feed(chunk, n);
             if (fault != null) {
                 return fault;
             }
         }
-        String fault = both("send()", KeyToken::send, Model::send);
-        while (fault == null && real.waiting() > 0 && pick(4) > 0) {
-            fault = both("take()", KeyToken::take, Model::take);
+        String fault = both("send()", Bench::send, Model::send);
+        while (fault == null && model.waiting() > 0 && pick(4) > 0) {
+            fault = both("take()", Bench::take, Model::take);
         }
         return fault;
     }

@@ -1,7 +1,7 @@
 /** Promise 1. */
 public final class NewObjectTest {
     public static void main(String[] args) {
-        KeyToken token = new KeyToken();
+        Bench token = new Bench();
         Checks.same("store", Wire.store(token), "-1 -1 -1 -1 -1 -1|".repeat(7));
         int[] looks = {1, 0, 0, 0, 0, 0, 0, 0, 0};
         for (int what = 0; what < looks.length; what++) {
@@ -13,7 +13,7 @@ public final class NewObjectTest {
             Checks.same("challenge of " + party, token.party(party, 1), 0);
         }
         Checks.same("no cut", Wire.ask(token, Wire.setPin("1234")), 0);
-        Checks.same("one object tells nothing of another", Wire.store(new KeyToken()), "-1 -1 -1 -1 -1 -1|".repeat(7));
+        Checks.same("one object tells nothing of another", Wire.store(new Bench()), "-1 -1 -1 -1 -1 -1|".repeat(7));
         Checks.end("NewObjectTest");
     }
 }

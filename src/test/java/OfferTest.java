@@ -14,7 +14,7 @@ public final class OfferTest {
     }
 
     private static void judgesInOrder() {
-        KeyToken token = new KeyToken();
+        Bench token = new Bench();
         token.open(1, 5);
         Wire.askPressed(token, Wire.make(4 + 1, "a", 5));
         Wire.askPressed(token, Wire.make(4 + 1, "b", 5));
@@ -34,7 +34,7 @@ public final class OfferTest {
     }
 
     private static void registersOnlyOnce() {
-        KeyToken token = new KeyToken();
+        Bench token = new Bench();
         Wire.askPressed(token, Wire.make(4, "a", 5));
         Wire.askPressed(token, Wire.make(8, "a", 5));
         Wire.askPressed(token, Wire.sign("a", 8));
@@ -48,7 +48,7 @@ public final class OfferTest {
         Checks.same("register it", token.offer(0, 2, 0, 0), 0);
         Checks.same("two", token.party(0, 0), 2);
 
-        KeyToken again = new KeyToken();
+        Bench again = new Bench();
         Wire.askPressed(again, Wire.make(4, "a", 5));
         again.open(0, 1);
         again.offer(0, 1, 0, 0);
@@ -62,7 +62,7 @@ public final class OfferTest {
     }
 
     private static void registersAtMostSix() {
-        KeyToken token = new KeyToken();
+        Bench token = new Bench();
         for (int round = 1; round <= 7; round++) {
             token.open(0, round);
             token.press();
@@ -77,7 +77,7 @@ public final class OfferTest {
     }
 
     private static void wantsAGreaterCounter() {
-        KeyToken token = new KeyToken();
+        Bench token = new Bench();
         token.open(0, 1);
         token.press();
         token.ceremony(0, 0, true, 0);
@@ -95,7 +95,7 @@ public final class OfferTest {
         Checks.same("counter 3", token.offer(0, 4, 0, 0), 0);
         Checks.same("last", token.party(0, 30), 3);
 
-        KeyToken same = new KeyToken();
+        Bench same = new Bench();
         Wire.askPressed(same, Wire.make(8, "a", 1));
         same.open(0, 1);
         same.open(0, 1);
@@ -107,12 +107,12 @@ public final class OfferTest {
 
     private static void takesWhatIsNotAltered() {
         for (int what = 0; what <= 5; what++) {
-            KeyToken token = new KeyToken();
+            Bench token = new Bench();
             Wire.askPressed(token, Wire.make(4, "a", 5));
             token.open(0, 1);
             Checks.same("field " + what + " by 0", token.offer(0, 1, what, 0), 0);
         }
-        KeyToken token = new KeyToken();
+        Bench token = new Bench();
         Wire.askPressed(token, Wire.make(4, "a", 5));
         token.open(0, 1);
         Checks.same("no field by 7", token.offer(0, 1, 0, 7), 0);
@@ -122,30 +122,34 @@ public final class OfferTest {
     }
 
     private static void knowsTheLatestForty() {
-        KeyToken token = new KeyToken();
+        Bench token = new Bench();
         for (int number = 1; number <= 41; number++) {
             Wire.askPressed(token, Wire.make(4, "a", 5));
         }
         token.open(0, 1);
-        Checks.raisesAndKeeps("the 41st latest", token, NoSuchElementException.class, () -> token.offer(0, 1, 0, 0));
+        Checks.raises("the 41st latest", NoSuchElementException.class, () -> token.offer(0, 1, 0, 0));
         Checks.same("the 40th latest", token.offer(0, 2, 0, 0), 0);
         Checks.same("its key", token.party(0, 10), 2);
     }
 
-    private static void refusesWrongCalls() {
-        KeyToken token = new KeyToken();
+    private static Bench opened() {
+        Bench token = new Bench();
         Wire.askPressed(token, Wire.make(4, "a", 5));
         token.open(0, 1);
+        return token;
+    }
+
+    private static void refusesWrongCalls() {
         int[][] wrong = {{-1, 0}, {4, 0}, {0, -1}, {0, 6}, {0, Integer.MAX_VALUE}};
         for (int[] w : wrong) {
-            Checks.raisesAndKeeps("party " + w[0] + ", what " + w[1], token, IndexOutOfBoundsException.class,
-                    () -> token.offer(w[0], 9, w[1], 0));
+            Twins.keeps("party " + w[0] + ", what " + w[1], OfferTest::opened, IndexOutOfBoundsException.class,
+                    t -> t.offer(w[0], 9, w[1], 0));
         }
         int[] numbers = {0, -1, 2, Integer.MAX_VALUE, Integer.MIN_VALUE};
         for (int number : numbers) {
-            Checks.raisesAndKeeps("signature " + number, token, NoSuchElementException.class,
-                    () -> token.offer(1, number, 0, 0));
+            Twins.keeps("signature " + number, OfferTest::opened, NoSuchElementException.class,
+                    t -> t.offer(1, number, 0, 0));
         }
-        Checks.raisesAndKeeps("no challenge", token, IllegalStateException.class, () -> token.offer(1, 1, 0, 0));
+        Twins.keeps("no challenge", OfferTest::opened, IllegalStateException.class, t -> t.offer(1, 1, 0, 0));
     }
 }

@@ -1,7 +1,7 @@
 /** Promise 13. */
 public final class PartyTest {
     public static void main(String[] args) {
-        KeyToken token = new KeyToken();
+        Bench token = new Bench();
         for (int k = 0; k < 6; k++) {
             Checks.same("before it, key " + k, token.party(2, 10 + k), -1);
             Checks.same("before it, user " + k, token.party(2, 20 + k), -1);

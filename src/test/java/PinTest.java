@@ -12,19 +12,19 @@ public final class PinTest {
         Checks.end("PinTest");
     }
 
-    private static void tries(String when, KeyToken token, int due) {
+    private static void tries(String when, Bench token, int due) {
         Wire.ask(token, Wire.TRIES);
         Checks.same(when + ", tries", Wire.answer(token), "00 a1 01 0" + due);
     }
 
-    private static KeyToken withPin() {
-        KeyToken token = new KeyToken();
+    private static Bench withPin() {
+        Bench token = new Bench();
         Wire.ask(token, Wire.setPin("1234"));
         return token;
     }
 
     private static void checksParameters() {
-        KeyToken token = new KeyToken();
+        Bench token = new Bench();
         String[] wrongTypes = {"06 a1 01 60", "06 a2 01 01 02 05", "06 a2 01 01 03 05", "06 a2 01 05 02 44 31 32 33 34",
             "06 a1 03 f5", "06 a2 01 09 03 80"};
         for (String hex : wrongTypes) {
@@ -43,7 +43,7 @@ public final class PinTest {
     }
 
     private static void sets() {
-        KeyToken token = new KeyToken();
+        Bench token = new Bench();
         tries("no PIN", token, 8);
         Checks.same("3 characters", Wire.ask(token, Wire.setPin("123")), 15);
         Checks.same("9 characters", Wire.ask(token, Wire.setPin("123456789")), 15);
@@ -53,11 +53,11 @@ public final class PinTest {
         tries("set", token, 8);
         Checks.same("there is one", Wire.ask(token, Wire.setPin("5678")), 5);
         Checks.same("5 before 15", Wire.ask(token, Wire.setPin("1")), 5);
-        Checks.same("8 characters", Wire.ask(new KeyToken(), Wire.setPin("12345678")), 0);
+        Checks.same("8 characters", Wire.ask(new Bench(), Wire.setPin("12345678")), 0);
     }
 
     private static void changes() {
-        KeyToken token = new KeyToken();
+        Bench token = new Bench();
         Checks.same("no PIN", Wire.ask(token, Wire.changePin("1234", "1")), 13);
         Wire.ask(token, Wire.setPin("1234"));
         Wire.ask(token, Wire.ticket("1234"));
@@ -80,7 +80,7 @@ public final class PinTest {
     }
 
     private static void countsWrongOnes() {
-        KeyToken token = withPin();
+        Bench token = withPin();
         Checks.same("first", Wire.ask(token, Wire.ticket("0000")), 10);
         Checks.same("second", Wire.ask(token, Wire.ticket("")), 10);
         Checks.same("right", Wire.ask(token, Wire.ticket("1234")), 0);
@@ -100,7 +100,7 @@ public final class PinTest {
     }
 
     private static void blocks() {
-        KeyToken token = withPin();
+        Bench token = withPin();
         int[] due = {10, 10, 12, 10, 10, 12, 10, 11};
         for (int i = 0; i < due.length; i++) {
             Checks.same("wrong one " + (i + 1), Wire.ask(token, Wire.ticket("0000")), due[i]);
@@ -119,7 +119,7 @@ public final class PinTest {
         Checks.same("until RESET", Wire.ask(token, Wire.setPin("1234")), 0);
         Checks.same("which ends it", Wire.ask(token, Wire.ticket("1234")), 0);
 
-        KeyToken cut = withPin();
+        Bench cut = withPin();
         for (int i = 0; i < 5; i++) {
             cut.cut(7);
             Wire.ask(cut, Wire.ticket("1234"));
@@ -131,7 +131,7 @@ public final class PinTest {
         Checks.same("the third wrong one", cut.look(2), 3);
         Checks.same("11 before 12 again", Wire.ask(cut, Wire.ticket("1234")), 11);
 
-        KeyToken last = withPin();
+        Bench last = withPin();
         for (int i = 0; i < 7; i++) {
             last.cut(7);
             Wire.ask(last, Wire.ticket("1234"));
@@ -143,7 +143,7 @@ public final class PinTest {
     }
 
     private static void makesTickets() {
-        KeyToken token = new KeyToken();
+        Bench token = new Bench();
         Checks.same("no PIN", Wire.ask(token, Wire.ticket("1234")), 13);
         Wire.ask(token, Wire.setPin("1234"));
         for (int number = 1; number < 4; number++) {
@@ -155,13 +155,13 @@ public final class PinTest {
         Checks.same("a wrong PIN takes it", token.look(3), 0);
     }
 
-    private static void info(String when, KeyToken token, String due) {
+    private static void info(String when, Bench token, String due) {
         Checks.same(when, Wire.ask(token, Wire.INFO), 0);
         Checks.same(when, Wire.answer(token), due);
     }
 
     private static void tellsInfo() {
-        KeyToken token = new KeyToken();
+        Bench token = new Bench();
         info("new", token, "00 a3 01 00 02 f4 03 07");
         Wire.askPressed(token, Wire.make(1, "a", 1));
         info("a credential", token, "00 a3 01 01 02 f4 03 06");
@@ -175,7 +175,7 @@ public final class PinTest {
     }
 
     private static void resets() {
-        KeyToken token = withPin();
+        Bench token = withPin();
         Wire.ask(token, Wire.ticket("1234"));
         Wire.askPressed(token, Wire.makeWith(1, "a", 1, 1));
         String store = Wire.store(token);

@@ -10,7 +10,7 @@ public final class PowerTest {
     }
 
     private static void switches() {
-        KeyToken token = new KeyToken();
+        Bench token = new Bench();
         Checks.same("is on", token.power(true), false);
         Checks.same("off", token.power(false), true);
         Checks.same("look", token.look(0), 0);
@@ -21,7 +21,7 @@ public final class PowerTest {
     }
 
     private static void takesAllThatIsNotStored() {
-        KeyToken token = new KeyToken();
+        Bench token = new Bench();
         Wire.askPressed(token, Wire.make(1, "a", 1));
         Wire.askPressed(token, Wire.make(1, "a", 2));
         Wire.ask(token, Wire.setPin("1234"));
@@ -54,7 +54,7 @@ public final class PowerTest {
     }
 
     private static void takesTheCut() {
-        KeyToken token = new KeyToken();
+        Bench token = new Bench();
         token.cut(0);
         token.power(false);
         token.power(true);
@@ -63,7 +63,7 @@ public final class PowerTest {
 
     private static void erasesWhatIsTorn() {
         for (int k = 0; k < 6; k++) {
-            KeyToken token = new KeyToken();
+            Bench token = new Bench();
             Wire.askPressed(token, Wire.make(1, "a", 1));
             token.press();
             token.cut(k);
@@ -79,7 +79,7 @@ public final class PowerTest {
     }
 
     private static void erasesTheOlderOfTwo() {
-        KeyToken token = new KeyToken();
+        Bench token = new Bench();
         Wire.askPressed(token, Wire.make(1, "a", 1));
         Wire.askPressed(token, Wire.make(1, "a", 2));
         token.press();

@@ -8,7 +8,7 @@ public final class PressTest {
     }
 
     private static void pressesOnce() {
-        KeyToken token = new KeyToken();
+        Bench token = new Bench();
         Checks.same("press", token.press(), true);
         Checks.same("it is pressed", token.look(1), 1);
         Checks.same("press again", token.press(), true);
@@ -19,7 +19,7 @@ public final class PressTest {
     }
 
     private static void isUsedUpWhereItIsLookedAt() {
-        KeyToken token = new KeyToken();
+        Bench token = new Bench();
         token.press();
         Wire.ask(token, "01 a0");
         Checks.same("a missing parameter leaves it", token.look(1), 1);
@@ -44,7 +44,7 @@ public final class PressTest {
     }
 
     private static void isRefusedWithoutPower() {
-        KeyToken token = new KeyToken();
+        Bench token = new Bench();
         token.press();
         token.power(false);
         Checks.same("gone with the power", token.look(1), 0);

@@ -10,7 +10,7 @@ public final class SendTest {
     }
 
     private static void answersTheStatus() {
-        KeyToken token = new KeyToken();
+        Bench token = new Bench();
         Checks.same("nothing in the input", token.send(), 1);
         Checks.same("its answer", Wire.answer(token), "01");
         int[] unknown = {0, 3, 5, 9, 10, 128, 255};
@@ -29,7 +29,7 @@ public final class SendTest {
     }
 
     private static void replacesTheOutput() {
-        KeyToken token = new KeyToken();
+        Bench token = new Bench();
         Wire.ask(token, Wire.INFO);
         Checks.same("info", token.waiting(), 8);
         Wire.ask(token, Wire.NEXT);
@@ -46,7 +46,7 @@ public final class SendTest {
     }
 
     private static void looksInOrder() {
-        KeyToken token = new KeyToken();
+        Bench token = new Bench();
         Checks.same("a wrong type before a missing one", Wire.ask(token, "01 a1 08 61 61"), 3);
         Checks.same("missing", Wire.ask(token, "01 a1 01 05"), 4);
         Checks.same("missing before not allowed", Wire.ask(token, "01 a2 01 05 02 60"), 4);
@@ -58,7 +58,7 @@ public final class SendTest {
     }
 
     private static void tellsThatThePowerWent() {
-        KeyToken token = new KeyToken();
+        Bench token = new Bench();
         Wire.ask(token, Wire.INFO);
         token.cut(0);
         Checks.same("cut", Wire.ask(token, Wire.setPin("1234")), -1);
@@ -66,9 +66,13 @@ public final class SendTest {
         Checks.same("no input", token.look(6), 0);
     }
 
-    private static void refusesWithoutPower() {
-        KeyToken token = new KeyToken();
+    private static Bench withoutPower() {
+        Bench token = new Bench();
         token.power(false);
-        Checks.raisesAndKeeps("no power", token, IllegalStateException.class, token::send);
+        return token;
+    }
+
+    private static void refusesWithoutPower() {
+        Twins.keeps("no power", SendTest::withoutPower, IllegalStateException.class, Bench::send);
     }
 }

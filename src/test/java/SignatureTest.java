@@ -9,14 +9,14 @@ public final class SignatureTest {
         Checks.end("SignatureTest");
     }
 
-    private static void fields(String what, KeyToken token, int number, int... due) {
+    private static void fields(String what, Bench token, int number, int... due) {
         for (int field = 1; field <= 6; field++) {
             Checks.same(what + ", field " + field, token.signature(number, field), due[field - 1]);
         }
     }
 
     private static void tellsFields() {
-        KeyToken token = new KeyToken();
+        Bench token = new Bench();
         Wire.askPressed(token, Wire.make(70000, "abcdefgh", 3));
         fields("made", token, 1, 1, 1, Wire.numberOfText("abcdefgh"), 70000, 0, 0);
         Wire.askPressed(token, Wire.sign("abcdefgh", Integer.MAX_VALUE));
@@ -33,26 +33,33 @@ public final class SignatureTest {
         fields("without power", token, 5, 2, 2, 753, 2, 2, 1);
     }
 
-    private static void keepsForty() {
-        KeyToken token = new KeyToken();
-        for (int number = 1; number <= 85; number++) {
+    private static Bench signed(int count) {
+        Bench token = new Bench();
+        for (int number = 1; number <= count; number++) {
             Wire.askPressed(token, Wire.make(number, "a", 5));
-            for (int old = Math.max(1, number - 39); old <= number; old++) {
-                Checks.same("challenge of " + old, token.signature(old, 4), old);
+        }
+        return token;
+    }
+
+    private static void keepsForty() {
+        for (int count = 1; count <= 82; count++) {
+            Bench token = signed(count);
+            for (int old = Math.max(1, count - 39); old <= count; old++) {
+                Checks.same("challenge of " + old + " of " + count, token.signature(old, 4), old);
             }
-            int gone = number - 40;
-            Checks.raises("number " + gone, NoSuchElementException.class, () -> token.signature(gone, 4));
+            int gone = count - 40;
+            int to = count + 1;
+            Checks.raises("number " + gone + " of " + count, NoSuchElementException.class, () -> token.signature(gone, 4));
+            Checks.raises("number " + to + " of " + count, NoSuchElementException.class, () -> token.signature(to, 4));
         }
     }
 
     private static void refusesWrongCalls() {
-        KeyToken token = new KeyToken();
-        Checks.raises("none yet", NoSuchElementException.class, () -> token.signature(1, 1));
-        Wire.askPressed(token, Wire.make(1, "a", 5));
+        Checks.raises("none yet", NoSuchElementException.class, () -> new Bench().signature(1, 1));
         int[][] wrong = {{0, 1}, {2, 1}, {-1, 1}, {1, 0}, {1, 7}, {1, -1}, {Integer.MIN_VALUE, 1}, {Integer.MAX_VALUE, 1}};
         for (int[] w : wrong) {
-            Checks.raisesAndKeeps("signature " + w[0] + ", " + w[1], token, NoSuchElementException.class,
-                    () -> token.signature(w[0], w[1]));
+            Twins.keeps("signature " + w[0] + ", " + w[1], () -> signed(1), NoSuchElementException.class,
+                    t -> t.signature(w[0], w[1]));
         }
     }
 }

@@ -10,7 +10,7 @@ public final class TakeTest {
     }
 
     private static void takesEightOrFewer() {
-        KeyToken token = new KeyToken();
+        Bench token = new Bench();
         Wire.ask(token, Wire.INFO);
         Checks.same("eight", token.take(), 0x00a3010002f40307L);
         Wire.ask(token, Wire.TRIES);
@@ -27,18 +27,22 @@ public final class TakeTest {
         int[] users = {0, 23, 24, 255, 256, 65535, 65536, Integer.MAX_VALUE};
         String[] written = {"00", "17", "18 18", "18 ff", "19 01 00", "19 ff ff", "1a 00 01 00 00", "1a 7f ff ff ff"};
         for (int i = 0; i < users.length; i++) {
-            KeyToken token = new KeyToken();
+            Bench token = new Bench();
             Wire.askPressed(token, Wire.make(1, "a", users[i]));
             Wire.askPressed(token, Wire.sign("a", 1));
             Checks.same("user " + users[i], Wire.answer(token), "00 a6 01 01 02 01 03 02 04 01 05 01 06 " + written[i]);
         }
     }
 
-    private static void throwsWithoutOutput() {
-        KeyToken token = new KeyToken();
-        Checks.raisesAndKeeps("no output", token, NoSuchElementException.class, token::take);
+    private static Bench withoutPower() {
+        Bench token = new Bench();
         Wire.ask(token, Wire.INFO);
         token.power(false);
-        Checks.raisesAndKeeps("no power", token, NoSuchElementException.class, token::take);
+        return token;
+    }
+
+    private static void throwsWithoutOutput() {
+        Twins.keeps("no output", Bench::new, NoSuchElementException.class, Bench::take);
+        Twins.keeps("no power", TakeTest::withoutPower, NoSuchElementException.class, Bench::take);
     }
 }

@@ -1,7 +1,7 @@
 /** Promise 5. */
 public final class WaitingTest {
     public static void main(String[] args) {
-        KeyToken token = new KeyToken();
+        Bench token = new Bench();
         Checks.same("at first", token.waiting(), 0);
         Wire.feed(token, Wire.INFO);
         Checks.same("input is no output", token.waiting(), 0);

@@ -4,6 +4,7 @@ final class Wire {
     static final String NEXT = "08";
     static final String RESET = "07";
     static final String TRIES = "06 a1 01 01";
+    static final String BLANK = "-1 -1 -1 -1 -1 -1";
 
     private Wire() {
     }
@@ -17,24 +18,31 @@ final class Wire {
         return bytes;
     }
 
-    static void feed(KeyToken token, String hex) {
-        for (byte b : bytes(hex)) {
-            token.feed(b, 1);
+    /** Feeds eight bytes at a time, since the calls of an object are counted. */
+    static void feed(Bench token, String hex) {
+        byte[] all = bytes(hex);
+        for (int at = 0; at < all.length; at += 8) {
+            int n = Math.min(8, all.length - at);
+            long chunk = 0;
+            for (int i = at; i < at + n; i++) {
+                chunk = chunk << 8 | all[i] & 255;
+            }
+            token.feed(chunk, n);
         }
     }
 
-    static int ask(KeyToken token, String hex) {
+    static int ask(Bench token, String hex) {
         feed(token, hex);
         return token.send();
     }
 
-    static int askPressed(KeyToken token, String hex) {
+    static int askPressed(Bench token, String hex) {
         token.press();
         return ask(token, hex);
     }
 
     /** All that is left of the output. */
-    static String answer(KeyToken token) {
+    static String answer(Bench token) {
         StringBuilder text = new StringBuilder();
         while (token.waiting() > 0) {
             int n = Math.min(8, token.waiting());
@@ -120,7 +128,22 @@ final class Wire {
         return x;
     }
 
-    static String page(KeyToken token, int page) {
+    static int seal(int... cells) {
+        int x = 7;
+        for (int cell : cells) {
+            x = (x ^ cell) * 16777619 + 1;
+        }
+        return x & 0x7fffffff;
+    }
+
+    /** A whole record as page tells it. */
+    static String record(int name, int serial, int... data) {
+        int label = name + 16 * serial;
+        int seal = seal(label, data[0], data[1], data[2], data[3]);
+        return label + " " + data[0] + " " + data[1] + " " + data[2] + " " + data[3] + " " + seal;
+    }
+
+    static String page(Bench token, int page) {
         StringBuilder text = new StringBuilder();
         for (int k = 0; k < 6; k++) {
             text.append(k == 0 ? "" : " ").append(token.cell(page, k));
@@ -128,7 +151,7 @@ final class Wire {
         return text.toString();
     }
 
-    static String store(KeyToken token) {
+    static String store(Bench token) {
         StringBuilder text = new StringBuilder();
         for (int page = 0; page < 7; page++) {
             text.append(page(token, page)).append('|');
@@ -136,17 +159,22 @@ final class Wire {
         return text.toString();
     }
 
-    static String parties(KeyToken token) {
+    static String parties(Bench token) {
         StringBuilder text = new StringBuilder();
         for (int party = 0; party < 4; party++) {
-            for (int what = 0; what < 40; what++) {
-                text.append(token.party(party, what)).append(' ');
+            int registrations = token.party(party, 0);
+            text.append(registrations).append(" open ").append(token.party(party, 1));
+            for (int k = 0; k < registrations; k++) {
+                for (int what = 10 + k; what < 40; what += 10) {
+                    text.append(' ').append(token.party(party, what));
+                }
             }
+            text.append('|');
         }
         return text.toString();
     }
 
-    static String signatures(KeyToken token) {
+    static String signatures(Bench token) {
         StringBuilder text = new StringBuilder();
         int made = token.look(8);
         for (int number = Math.max(1, made - 39); number <= made; number++) {
@@ -157,9 +185,10 @@ final class Wire {
         return text.toString();
     }
 
-    static String state(KeyToken token) {
+    /** All that can be seen of an object without changing it; some 60 calls, and more for what it has made. */
+    static String state(Bench token) {
         StringBuilder text = new StringBuilder(store(token));
-        for (int what = 0; what < 10; what++) {
+        for (int what = 0; what < 9; what++) {
             text.append(token.look(what)).append(' ');
         }
         return text.append(token.waiting()).append(' ')
