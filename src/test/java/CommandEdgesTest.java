@@ -10,6 +10,7 @@ public final class CommandEdgesTest {
         excludedInLongLists();
         allowedNames();
         allowedInLongLists();
+        listsHoldNamesNotKeys();
         ticketsOfMake();
         ticketsOfAssert();
         presses();
@@ -150,6 +151,32 @@ public final class CommandEdgesTest {
             }
             Checks.same("not among " + length,
                     Wire.askPressed(credentials(6), "02 a3 01 61 61 02 05 03" + listWith(length, -1, 6)), 9);
+        }
+    }
+
+    /** Three credentials whose keys are 4, 5 and 6, and whose users are 7, 8 and 9. */
+    private static Bench withOtherKeys() {
+        Bench token = new Bench();
+        for (int i = 0; i < 3; i++) {
+            token.cut(0);
+            Wire.askPressed(token, Wire.make(1, "a", 7));
+            token.power(true);
+        }
+        for (int user = 7; user <= 9; user++) {
+            Wire.askPressed(token, Wire.make(1, "a", user));
+        }
+        return token;
+    }
+
+    private static void listsHoldNamesNotKeys() {
+        for (int number = 0; number <= 10; number++) {
+            boolean name = number >= 1 && number <= 3;
+            Bench allowed = withOtherKeys();
+            Checks.same("allowed " + number, Wire.askPressed(allowed, Wire.signAllowed("a", 1, number)), name ? 0 : 9);
+            Checks.same("its answer", Wire.answer(allowed), !name ? "09"
+                    : String.format("00 a6 01 %02x 02 %02x 03 04 04 01 05 01 06 %02x", number, number + 3, number + 6));
+            Bench excluded = withOtherKeys();
+            Checks.same("excluded " + number, Wire.askPressed(excluded, Wire.makeExcluding(1, "a", 1, number)), name ? 8 : 0);
         }
     }
 

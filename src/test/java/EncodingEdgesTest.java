@@ -117,22 +117,21 @@ public final class EncodingEdgesTest {
         }
     }
 
+    private static final String[] OTHER_NUMBERS = {"", "00", "18", "ff", "01 00", "00 ff", "00 01 00 00", "7f ff ff ff",
+        "00 00 00 00 00 00 00 18", "00 00 00 00 00 01 00 00", "00 00 00 01 00 00 00 00", "00 00 00 01 7f ff ff ff",
+        "00 00 00 00 00 00 00 00 00 00 00 00 00 01 00 00"};
+
     // "other m: MALFORMED"
     private static void otherLengthsOfNumbers() {
         for (int major = 0; major < 8; major++) {
             for (int m = 27; m <= 31; m++) {
                 String first = String.format("%02x", 32 * major + m);
-                item(first, false);
-                item(first + "00", false);
-                item(first + "00 00 00 01 00 00 00 00", false);
-                item(first + "00 00 00 00 00 00 00 18", false);
-                item(first + "00 00 00 00 00 01 00 00", false);
-                item(first + "00 00 00 01 7f ff ff ff", false);
-                item(first + "00 00 00 00 00 00 00 00 00 00 00 00 00 00 00 00", false);
-                item(first + "ff", false);
-                item(first + "00 ff", false);
-                info("04" + first, false);
-                info("04 a1" + first + "00 00 00 01 00 00 00 00 00", false);
+                for (String number : OTHER_NUMBERS) {
+                    item(first + number, false);
+                    item(first + number + "00", false);
+                    info("04" + first + number, false);
+                    info("04 a1" + first + number + "00", false);
+                }
             }
         }
     }

@@ -20,6 +20,7 @@ public final class StoreEdgesTest {
         infoAtEachFilling();
         fullOfRecordsThatHoldAnErasedCell();
         noRecordIsNoCredential();
+        thePinIsNoCredential();
         Checks.end("StoreEdgesTest");
     }
 
@@ -300,5 +301,30 @@ public final class StoreEdgesTest {
             Checks.same("MAKE again", Wire.askPressed(token, Wire.makeExcluding(1, text, 1, 0, 1, 2, 4, 5, 6, 7)), 0);
             Checks.same("excluded", Wire.askPressed(token, Wire.makeExcluding(1, text, 2, 3)), 8);
         }
+    }
+
+    // "NAME (0 the PIN, 1 .. 6 a credential)"
+    private static void thePinIsNoCredential() {
+        Bench token = new Bench();
+        Wire.ask(token, Wire.setPin("1234"));
+        Wire.ask(token, Wire.ticket("1234"));
+        Checks.same("ASSERT with its number", Wire.askPressed(token, Wire.sign("1234", 1)), 9);
+        Checks.same("and its name", Wire.ask(token, Wire.signAllowed("1234", 1, 0)), 9);
+        String make = "01 a5 01 05 02 64 31 32 33 34 03 08 05 81 00 08 01";
+        Checks.same("MAKE with its number, for user 8, its name excluded", Wire.ask(token, make), 0);
+        Checks.same("name 1", Wire.answer(token), "00 a3 01 01 02 01 03 01");
+        pages("beside it", token, Wire.record(0, 3, PIN_1234, 8, 0, 0), Wire.record(1, 4, PIN_1234, 8, 1, 0));
+        Checks.same("again", Wire.askPressed(token, make), 0);
+        Checks.same("it is replaced", Wire.answer(token), "00 a3 01 01 02 02 03 02");
+        Checks.same("ASSERT", Wire.askPressed(token, Wire.sign("1234", 1)), 0);
+        Checks.same("one credential", Wire.answer(token), "00 a6 01 01 02 02 03 03 04 01 05 01 06 08");
+
+        Bench behind = new Bench();
+        Wire.askPressed(behind, Wire.make(1, "1234", 8));
+        Wire.ask(behind, Wire.setPin("1234"));
+        Wire.ask(behind, Wire.ticket("1234"));
+        Checks.same("the PIN on a page behind it", behind.cell(1, 0), 16 * 4);
+        Checks.same("MAKE", Wire.askPressed(behind, make), 0);
+        Checks.same("it is replaced", Wire.answer(behind), "00 a3 01 01 02 02 03 02");
     }
 }
