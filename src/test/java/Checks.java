@@ -4,8 +4,26 @@ import java.util.Objects;
 final class Checks {
     private static int made = 0;
     private static int wrong = 0;
+    private static final long MOST_MILLISECONDS = 120_000;
+
+    static {
+        Thread watch = new Thread(Checks::endAfterAll);
+        watch.setDaemon(true);
+        watch.start();
+    }
 
     private Checks() {
+    }
+
+    /** Each call must end: a test that does not is wrong, too. */
+    private static void endAfterAll() {
+        try {
+            Thread.sleep(MOST_MILLISECONDS);
+        } catch (InterruptedException e) {
+            return;
+        }
+        System.out.println("a call does not end");
+        Runtime.getRuntime().halt(1);
     }
 
     interface Call {
