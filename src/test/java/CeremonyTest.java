@@ -5,6 +5,9 @@ public final class CeremonyTest {
         bindsTheOrigin();
         carriesTickets();
         emptiesInputAndOutput();
+        emptiesAFullInput();
+        excludesNothing();
+        asksWithoutAList();
         tellsStatusAndPower();
         leavesNextToGoThrough();
         refusesWrongCalls();
@@ -91,6 +94,54 @@ public final class CeremonyTest {
         Checks.same("assert", pressed(token, 0, 0, false, 0), 0);
         Checks.same("input", token.look(6), 0);
         Checks.same("output", token.waiting(), 0);
+    }
+
+    // "What is in the input and the output is gone before": the request is the client's alone, and there is room for it.
+    private static void emptiesAFullInput() {
+        for (int bytes = 0; bytes <= 48; bytes += 8) {
+            for (boolean registers : new boolean[] {true, false}) {
+                Bench token = new Bench();
+                Wire.askPressed(token, Wire.make(4, "a", 1));
+                token.open(0, 1);
+                token.offer(0, 1, 0, 0);
+                token.open(0, 99);
+                Wire.ask(token, Wire.INFO);
+                Wire.feed(token, "07".repeat(bytes));
+                Checks.same("behind " + bytes, pressed(token, 0, 0, registers, Integer.MAX_VALUE), registers ? 0 : 114);
+                Checks.same("input", token.look(6), 0);
+                Checks.same("output", token.waiting(), 0);
+                Checks.same("as it was asked", registers ? token.signature(2, 4) : 8, 8);
+                Checks.same("no RESET", token.cell(0, 0), 17);
+            }
+        }
+    }
+
+    // "MAKE (registers) for the open challenge's user, excluding nothing"
+    private static void excludesNothing() {
+        for (int user = 1; user <= 7; user++) {
+            Bench token = new Bench();
+            for (int other = 1; other <= 6; other++) {
+                Wire.askPressed(token, Wire.make(1, "a", other));
+            }
+            token.open(0, user);
+            Checks.same("six of the party, user " + user, pressed(token, 0, 0, true, 0), user <= 6 ? 0 : 106);
+            Checks.same("the user's is replaced", token.cell(6, 0), user <= 6 ? user + 16 * 7 : -1);
+        }
+    }
+
+    // "or ASSERT, without a list"
+    private static void asksWithoutAList() {
+        for (int count = 1; count <= 6; count++) {
+            Bench token = new Bench();
+            for (int user = 1; user <= count; user++) {
+                token.open(0, user);
+                pressed(token, 0, 0, true, 0);
+            }
+            token.open(0, 1);
+            Checks.same("assert", pressed(token, 0, 0, false, 0), 0);
+            Checks.same("the latest one's key", token.signature(count + 1, 2), count);
+            Checks.same("all the others are left", token.look(4), count - 1);
+        }
     }
 
     private static void tellsStatusAndPower() {

@@ -8,10 +8,12 @@ import java.util.TreeSet;
 /** The public face, and rules 1, 5 and 11 of LANGUAGE.md as far as reflection can tell them. */
 public final class FaceTest {
     private static final String[] FACE = {
-        "boolean cut(int)", "boolean power(boolean)", "boolean press()",
-        "int cell(int,int)", "int ceremony(int,int,boolean,int)", "int look(int)", "int offer(int,int,int,int)",
-        "int open(int,int)", "int party(int,int)", "int send()", "int signature(int,int)", "int waiting()",
-        "long take()", "void feed(long,int)"};
+        "boolean cut(int)", "boolean power(boolean)", "boolean press()", "int cell(int,int)",
+        "int ceremony(int,int,boolean,int) throws IndexOutOfBoundsException, IllegalStateException", "int look(int)",
+        "int offer(int,int,int,int) throws IndexOutOfBoundsException, NoSuchElementException, IllegalStateException",
+        "int open(int,int) throws IndexOutOfBoundsException", "int party(int,int)", "int send() throws IllegalStateException",
+        "int signature(int,int) throws NoSuchElementException", "int waiting()", "long take() throws NoSuchElementException",
+        "void feed(long,int) throws IllegalStateException, IllegalArgumentException"};
     private static final int SOME_TWENTY_FIELDS = 24;
 
     public static void main(String[] args) {
@@ -41,14 +43,24 @@ public final class FaceTest {
         for (Method m : face.getDeclaredMethods()) {
             if (Modifier.isPublic(m.getModifiers())) {
                 names.add(m.getName());
+                Checks.same(m.getName() + " is no more than public", m.getModifiers(), Modifier.PUBLIC);
                 methods.add(m.getReturnType() + " " + m.getName()
-                        + Arrays.toString(m.getParameterTypes()).replace(" ", "").replace('[', '(').replace(']', ')'));
+                        + Arrays.toString(m.getParameterTypes()).replace(" ", "").replace('[', '(').replace(']', ')')
+                        + thrownBy(m));
             } else {
                 Checks.same(m.getName() + " is private", Modifier.isPrivate(m.getModifiers()), true);
             }
         }
         Checks.same("methods", methods, new TreeSet<>(Arrays.asList(FACE)));
         return names;
+    }
+
+    private static String thrownBy(Method m) {
+        StringBuilder text = new StringBuilder();
+        for (Class<?> type : m.getExceptionTypes()) {
+            text.append(text.length() == 0 ? " throws " : ", ").append(type.getSimpleName());
+        }
+        return text.toString();
     }
 
     private static void privateNamesDiffer(Class<?> owner, TreeSet<String> names) {

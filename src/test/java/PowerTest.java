@@ -6,6 +6,7 @@ public final class PowerTest {
         takesTheCut();
         erasesWhatIsTorn();
         erasesTheOlderOfTwo();
+        noCutStopsTheErasing();
         Checks.end("PowerTest");
     }
 
@@ -101,5 +102,24 @@ public final class PowerTest {
         token.power(true);
         Checks.same("the new one stays", token.cell(0, 4), 2);
         Checks.same("the old one is erased", Wire.page(token, 2), "-1 -1 -1 -1 -1 -1");
+    }
+
+    // "(No cut stops that.)": a cut that went off is over, one can't be set without power, and what is erased then is no
+    // request's write.
+    private static void noCutStopsTheErasing() {
+        for (int k = 1; k <= 6; k++) {
+            Bench token = new Bench();
+            Wire.askPressed(token, Wire.make(1, "a", 1));
+            token.cut(k);
+            Checks.same("cut after " + k, Wire.askPressed(token, Wire.make(1, "a", 1)), -1);
+            Checks.same("none can be set", token.cut(0), false);
+            token.power(true);
+            Checks.same("one page is erased", token.look(5), 6 + k + 1);
+            int page = k == 6 ? 1 : 0;
+            Checks.same("the other stands", token.cell(page, 0), 1 + 16 * (page + 1));
+            token.cut(7);
+            Checks.same("seven writes of the next request", Wire.askPressed(token, Wire.make(1, "a", 1)), 0);
+            Checks.same("writes", token.look(5), 6 + k + 1 + 7);
+        }
     }
 }
